@@ -553,6 +553,10 @@ public final class SoulOffice {
         return c >= '0' && c <= '9';
     }
 
+    private static boolean isSignByte(int c) {
+        return c == ';' || c == '<' || c == '=' || c == '>' || c == '(' || c == ')';
+    }
+
     /** A WORD's next letter joins it: five bits a letter, so that seven of them fit a long. */
     private static long withLetter(long word, int letter) {
         return word * 32 + (letter - 'a' + 1);
@@ -573,14 +577,20 @@ public final class SoulOffice {
         }
     }
 
-    /** The bytes fed so far, and the TOKEN at which the reading of them stands. */
+    /** The bytes fed so far, the TOKENS read from them, and the one at which the reading stands. */
     private static final class Tape {
         final int[] bytes = new int[MAX_TAPE];
-        final long[] keys = new long[KEY_COUNT];
         int length;
-        int stop;
-        boolean tooLong;
-        int position;
+        private final long[] keys = new long[KEY_COUNT];
+        // The TOKENS of the text that is read, row by row; the last one is its END.
+        private final int[] sorts = new int[MAX_TAPE + 1];
+        private final int[] places = new int[MAX_TAPE + 1];
+        private final int[] numbers = new int[MAX_TAPE + 1];
+        private final long[] words = new long[MAX_TAPE + 1];
+        private int tokens;
+        private int next;
+        private boolean tooLong;
+        // The TOKEN here.
         int sort;
         int place;
         int number;
@@ -593,23 +603,88 @@ public final class SoulOffice {
 
         void addNumber(int n) {
             for (int shift = 24; shift >= 0; shift -= 8) {
-                if (length < bytes.length) {
+                if (length < MAX_TAPE) {
                     bytes[length] = n >>> shift & 255;
                     length++;
                 }
             }
         }
 
-        /** Reading begins anew, by a text's most bytes; its first TOKEN is read. */
+        /** Reading begins anew, by a text's most bytes: TOKENS that begin ahead of these are read. */
         void beginReading(int mostBytes) {
             faultKind = 0;
-            position = 0;
             tooLong = length > mostBytes;
-            stop = tooLong ? mostBytes : length;
+            int stop = tooLong ? mostBytes : length;
+            tokens = 0;
+            int i = 0;
+            for (int turn = 0; turn < MAX_TAPE && i < stop && i < MAX_TAPE; turn++) {
+                int c = bytes[i];
+                if (isSmallLetter(c) || isDigit(c)) {
+                    i = addRun(i);
+                } else {
+                    if (c != ' ' && c != 10) {
+                        addToken(isSignByte(c) ? SIGN : BAD, i, c, 0);
+                    }
+                    i++;
+                }
+            }
+            addToken(END, stop, 0, 0);
+            next = 0;
             advance();
         }
 
-        /** The TOKEN here is at fault: always false, for the reader to give back. */
+        /** A WORD, a NUMBER or no TOKEN: small letters and digits as long as they go; where they end. */
+        private int addRun(int from) {
+            int letters = 0;
+            int digits = 0;
+            int value = 0;
+            long letterCode = 0;
+            int i = from;
+            for (; i < length && i < MAX_TAPE; i++) {
+                int c = bytes[i];
+                if (isSmallLetter(c)) {
+                    letters++;
+                    letterCode = withLetter(letterCode, c);
+                } else if (isDigit(c)) {
+                    digits++;
+                    value = value * 10 + (c - '0');
+                } else {
+                    break;
+                }
+            }
+            if (letters == 0 && digits <= 3) {
+                addToken(NUMBER, from, value, 0);
+            } else if (digits == 0 && letters <= 7) {
+                int key = placeOf(letterCode, keys, KEY_COUNT);
+                addToken(key == NONE ? NAME : KEY, from, key, letterCode);
+            } else {
+                addToken(BAD, from, 0, 0);
+            }
+            return i;
+        }
+
+        private void addToken(int sortOfIt, int from, int value, long letterCode) {
+            if (tokens <= MAX_TAPE) {
+                sorts[tokens] = sortOfIt;
+                places[tokens] = from;
+                numbers[tokens] = value;
+                words[tokens] = letterCode;
+                tokens++;
+            }
+        }
+
+        /** To the next TOKEN; at the END it stays. */
+        void advance() {
+            if (next < tokens && next <= MAX_TAPE) {
+                sort = sorts[next];
+                place = places[next];
+                number = numbers[next];
+                word = words[next];
+                next++;
+            }
+        }
+
+        /** The TOKEN here is at FAULT: always false, for the reader to give back. */
         boolean refuse(int kindOfFault) {
             faultKind = kindOfFault;
             return false;
@@ -686,58 +761,6 @@ public final class SoulOffice {
                 }
             }
             return NONE;
-        }
-
-        void advance() {
-            while (position < stop && isBlank(bytes[position])) {
-                position++;
-            }
-            place = position;
-            if (position >= stop || position >= bytes.length) {
-                place = stop;
-                sort = END;
-                return;
-            }
-            int c = bytes[position];
-            if (isSmallLetter(c) || isDigit(c)) {
-                readRun();
-                return;
-            }
-            position++;
-            number = c;
-            sort = c == ';' || c == '<' || c == '=' || c == '>' || c == '(' || c == ')' ? SIGN : BAD;
-        }
-
-        static boolean isBlank(int c) {
-            return c == 32 || c == 10;
-        }
-
-        /** A run of small letters and digits; it may go beyond where reading stops. */
-        private void readRun() {
-            int letters = 0;
-            int digits = 0;
-            number = 0;
-            word = 0;
-            for (; position < length && position < bytes.length; position++) {
-                int c = bytes[position];
-                if (isSmallLetter(c)) {
-                    letters++;
-                    word = withLetter(word, c);
-                } else if (isDigit(c)) {
-                    digits++;
-                    number = number * 10 + (c - '0');
-                } else {
-                    break;
-                }
-            }
-            sort = BAD;
-            if (letters == 0 && digits <= 3) {
-                sort = NUMBER;
-            } else if (digits == 0 && letters <= 7) {
-                int key = placeOf(word, keys, keys.length);
-                sort = key == NONE ? NAME : KEY;
-                number = key;
-            }
         }
     }
 
@@ -1455,8 +1478,12 @@ public final class SoulOffice {
         }
 
         private boolean readNamed(int key, long[] names, int size) {
-            int named = tape.takeName(names, size);
-            return named != NONE && addStep(key, 0, named);
+            int named = tape.nameHere(names, size);
+            if (named == NONE) {
+                return false;
+            }
+            tape.advance();
+            return addStep(key, 0, named);
         }
 
         private boolean readCompared(int key) {
@@ -1621,15 +1648,19 @@ public final class SoulOffice {
         MostSearch(Rules rules, Life life) {
             this.rules = rules;
             this.life = life;
+            clearGiven();
+        }
+
+        private void clearGiven() {
             for (int s = 0; s < MAX_SOULS; s++) {
                 given[s] = NONE;
             }
         }
 
         int mostSettled(int days) {
+            clearGiven();
             waiting = 0;
             for (int s = 0; s < rules.souls; s++) {
-                given[s] = NONE;
                 if (life.as[s] == NONE && waiting < MAX_CHOOSING) {
                     who[waiting] = s;
                     waiting++;
