@@ -60,6 +60,12 @@ public final class LaterPromiseTest {
         D.due("31: odds(41)", x.odds(41, 1), -1);
         D.due("31: all stays", x.now(0) + x.now(5), 0);
         D.due("31: nothing to undo", x.undo(), -1);
+        // the clerk settles 1 a DAY for 30 DAYS, each seed's a and b live as l alone
+        x = Desk.with("kind l 1 9;meets l l 1;soul a;soul b;debt a b 90;");
+        D.due("31: as much by the clerk", x.odds(40, 0), 0);
+        // the clerk gives both out as k and settles 2 a DAY; less is owed only with both drawn as l
+        x = Desk.with("kind k 30 9;kind l 60 9;meets k k 2;meets l l 3;soul a;soul b;debt a b 900;");
+        D.due("31: both as l", x.odds(40, 0), 17);
         x = Desk.with("kind k 60 9;soul a;soul b;debt a b 9;");
         D.due("31: as much is not less", x.odds(40, 1), 0);
     }
@@ -182,6 +188,7 @@ public final class LaterPromiseTest {
         D.due("36: not is of one", saidBits(x, "not place=0 or place=0"), 255);
         D.due("36: not is of one", saidBits(x, "not place=0 and place<3"), 6);
         D.due("36: not of a bracket", saidBits(x, "not (place=0 or place>2)"), 6);
+        D.due("36: not", saidBits(x, "not place=3"), 247);
         D.due("36: not not", saidBits(x, "not not place=3"), 8);
         D.due("36: many", saidBits(x, "place=0 or place=2 or place=4 or place=6"), 85);
         D.due("36: many", saidBits(x, "place>1 and place<6 and not place=3"), 52);

@@ -3,7 +3,7 @@ public final class PromiseTest {
     private static final Desk D = new Desk();
     private static final String THREE = "kind w 3 1;kind c 2 2;kind t 60 1;meets w c 4;meets c c 10;"
             + "soul a;soul b;soul d;only d t;wish a w;debt a b 9;debt b a 2;debt d a 5;grows 1;";
-    // two of six DAYS' life: eight SOULS and PLACES for all
+    // eight SOULS, and PLACES for all of them
     private static final String EIGHT = "kind k 6 9;kind l 1 9;meets k k 1;soul a;soul b;soul c;soul d;"
             + "soul e;soul f;soul g;soul h;";
 
@@ -19,14 +19,17 @@ public final class PromiseTest {
         byTheClerk();
         settledLatest();
         undoing();
+        beginningAnew();
         mostSettled();
         mostOfLikeWays();
         mostAndThoseWhoLive();
+        mostByLivesOfUnlikeLength();
         hopelessDebts();
         nets();
         whatTheyWere();
         appeals();
         grants();
+        grantsAmongOthers();
         D.close("PromiseTest");
     }
 
@@ -254,7 +257,7 @@ public final class PromiseTest {
         D.due("13: each pair settles", x.now(2), 14);
         D.due("13: the lesser SOUL's debt first", x.debt(1, 2), 0);
         D.due("13: no debt, nothing settled", x.settled(0, 2), 0);
-        // a lives 9 DAYS from the second on, b 9 from the first on
+        // a lives on DAYS 1 and 2, b on DAYS 2 and 3: they meet once
         x = Desk.with("kind k 2 9;meets k k 1;soul a;soul b;debt a b 9;");
         x.give(0, 0);
         x.days(1);
@@ -314,6 +317,8 @@ public final class PromiseTest {
         x = Desk.with("kind k 1 9;kind l 1 9;soul a;soul b;wish b l;");
         D.due("29: the first KIND", x.queue(0), 1);
         D.due("29: the wish", x.queue(1), 2);
+        x = Desk.with("kind k 1 3;soul a;soul b;soul c;soul d;");
+        D.due("29: as many as there are PLACES", x.queue(0), 7);
         // settling: k and k meet, 5 a DAY, each life of 2 DAYS
         x = Desk.with("kind w 2 2;meets w w 5;soul a;soul b;debt a b 12;");
         D.due("27: ends()", x.ends(), 3);
@@ -421,6 +426,42 @@ public final class PromiseTest {
         D.due("16: a FAULT leaves it", x.undo(), 0);
     }
 
+    private static void beginningAnew() {
+        SoulOffice x = Desk.with(THREE);
+        x.give(0, 1);
+        x.give(1, 1);
+        x.days(1);
+        x.give(2, 2);
+        D.due("16: undo()", x.undo(), 3);
+        D.due("16: undo()", x.undo(), 2);
+        D.due("16: what grew is back", x.now(3), 0);
+        D.due("16: what was settled is back", x.now(2), 0);
+        D.due("16: DAYS left are back", x.soul(0, 1), 2);
+        D.due("16: today is back", x.soul(0, 7), 1);
+        D.due("16: debts are back", x.now(1), 16);
+        x.days(1);
+        x.give(2, 2);
+        Desk.office(x, THREE);
+        D.due("4: DAY 0", x.now(0), 0);
+        D.due("4: nothing settled", x.now(2), 0);
+        D.due("4: nothing grown", x.now(3), 0);
+        D.due("4: no births", x.now(5), 0);
+        for (int s = 0; s < 3; s++) {
+            D.due("4: all wait", x.soul(s, 0), -1);
+            D.due("4: no DAYS left", x.soul(s, 1), 0);
+            D.due("4: not born", x.soul(s, 2), 0);
+            D.due("4: not today", x.soul(s, 7), 0);
+        }
+        D.due("4: PLACES are free", x.kind(2, 2), 1);
+        D.due("4: debts as told", x.now(1), 16);
+        Desk.office(x, "kind w 1 1;kind c 1 1;kind t 1 1;soul a;soul b;soul d;debt b a 3;");
+        D.due("4: no debts of another OFFICE", x.now(1), 3);
+        D.due("4: no meets of another OFFICE", x.meets(1, 1), 0);
+        D.due("4: no wish of another OFFICE", x.soul(0, 4), -1);
+        D.due("4: no 'only' of another OFFICE", x.soul(2, 3), 7);
+        D.due("4: no 'grows' of another OFFICE", x.count(2), 0);
+    }
+
     private static void mostSettled() {
         SoulOffice x = Desk.with("kind x 1 9;kind y 10 9;meets x x 10;meets y y 3;soul a;soul b;debt a b 100;");
         D.due("17: most(0)", x.most(0), -1);
@@ -505,6 +546,26 @@ public final class PromiseTest {
         D.due("17: no PLACE as k today", x.most(1), 1);
         x.days(1);
         D.due("17: a PLACE as k", x.most(1), 9);
+    }
+
+    private static void mostByLivesOfUnlikeLength() {
+        String laws = "kind k 2 9;kind l 9 9;meets k l 1;soul a;soul b;debt a b 90;";
+        SoulOffice x = Desk.with(laws + "only a k;only b l;");
+        D.due("17: as long as both live", x.most(30), 2);
+        x.give(0, 0);
+        D.due("17: one lives already", x.most(30), 2);
+        x.give(1, 1);
+        D.due("17: both live already", x.most(30), 2);
+        x = Desk.with(laws + "only a l;only b k;");
+        D.due("17: the other way round", x.most(30), 2);
+        x.give(0, 1);
+        x.days(8);
+        D.due("17: one DAY is left", x.most(30), 1);
+        x.give(1, 0);
+        D.due("17: one DAY is left", x.most(30), 1);
+        x = Desk.with("kind k 9 9;meets k k 3;soul a;soul b;debt b a 7;");
+        D.due("17: no more than there is", x.most(9), 7);
+        D.due("17: DAY by DAY", x.most(2), 6);
     }
 
     private static void hopelessDebts() {
@@ -679,5 +740,50 @@ public final class PromiseTest {
         D.due("26: b as the first KIND, which a leaves", x.soul(1, 0), 0);
         D.due("26: a PLACE alone", x.grant(0, 2), true);
         D.due("25: a PLACE alone", x.appeal(1, 1), 1);
+    }
+
+    private static void grantsAmongOthers() {
+        // a and e live from another DAY: they stay as they are, and take no PLACES
+        SoulOffice x = Desk.with("kind k 9 1;kind l 9 1;kind m 9 2;soul a;soul b;soul c;soul d;soul e;");
+        x.give(0, 1);
+        x.give(4, 2);
+        x.days(1);
+        x.give(1, 0);
+        x.give(2, 1);
+        x.give(3, 2);
+        D.due("26: granted", x.grant(2, 0), true);
+        D.due("26: a stays", x.soul(0, 0), 1);
+        D.due("26: a's life goes on", x.soul(0, 1), 8);
+        D.due("26: b goes on as l, which c leaves", x.soul(1, 0), 1);
+        D.due("26: c is k", x.soul(2, 0), 0);
+        D.due("26: d stays", x.soul(3, 0), 2);
+        D.due("26: e stays", x.soul(4, 0), 2);
+        D.due("26: e's life goes on", x.soul(4, 1), 8);
+        D.due("16: undo()", x.undo(), 6);
+        // b as k (the first KIND) would leave c nothing to go on to: b has to be m
+        x = Desk.with("kind k 1 1;kind l 1 2;kind m 1 1;kind n 1 1;soul a;soul b;soul c;soul d;only c l k;only d n l;");
+        x.give(0, 0);
+        x.give(1, 1);
+        x.give(2, 1);
+        x.give(3, 3);
+        D.due("25: d to l, one of l to k or m", x.appeal(3, 1), 2);
+        D.due("26: granted", x.grant(3, 1), true);
+        D.due("26: a stays", x.soul(0, 0), 0);
+        D.due("26: b goes on, c can't: k has no PLACE", x.soul(1, 0), 2);
+        D.due("26: c stays", x.soul(2, 0), 1);
+        D.due("26: d is l", x.soul(3, 0), 1);
+        // the last SOUL asks: of two chains of three the first, b stays
+        x = Desk.with("kind k 1 1;kind l 1 1;kind m 1 1;kind n 1 1;soul a;soul b;soul c;soul d;"
+                + "only a k m;only b l k m;only c m l k;");
+        x.give(0, 0);
+        x.give(1, 1);
+        x.give(2, 2);
+        x.give(3, 3);
+        D.due("25: none of them may be n", x.appeal(3, 0), -1);
+        D.due("26: none of them may be n", x.grant(3, 0), false);
+        D.due("25: a swap would do for c", x.appeal(2, 0), 2);
+        D.due("26: granted", x.grant(2, 0), true);
+        D.due("26: a goes on as m", x.soul(0, 0), 2);
+        D.due("26: b stays", x.soul(1, 0), 1);
     }
 }
