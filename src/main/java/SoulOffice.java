@@ -25,7 +25,6 @@ public final class SoulOffice {
     private static final int MAX_WITHIN = 8;
 
     private static final int MAX_UNDO = 8;
-    private static final int IMAGE_PLACES = 2;
     private static final int MAX_SEEN = 30;
     private static final int MAX_BEHIND = 9;
     private static final int MAX_MOST_DAYS = 30;
@@ -97,24 +96,25 @@ public final class SoulOffice {
     private final int[] firstWay;
 
     public SoulOffice() {
-        tape = new Tape();
-        rules = new Rules();
-        draft = new Rules();
-        life = new Life(rules);
-        life.begin();
-        trial = new Life(rules);
-        saying = new Sentence(tape, rules);
-        sayingDraft = new Sentence(tape, rules);
-        history = new History(rules);
-        images = new Image[IMAGE_PLACES];
-        for (int k = 0; k < IMAGE_PLACES; k++) {
-            images[k] = new Image(tape, rules);
-        }
-        officeText = new OfficeText(tape, draft);
-        book = new Book(tape, rules);
-        mostSearch = new MostSearch(rules, life);
-        appealSearch = new AppealSearch(rules, life);
-        nets = new Nets(rules, life);
+        Tape bytes = new Tape();
+        Rules told = new Rules();
+        Rules toldAnew = new Rules();
+        Life now = new Life(told);
+        now.begin();
+        tape = bytes;
+        rules = told;
+        draft = toldAnew;
+        life = now;
+        trial = new Life(told);
+        saying = new Sentence(bytes, told);
+        sayingDraft = new Sentence(bytes, told);
+        history = new History(told);
+        officeText = new OfficeText(bytes, toldAnew);
+        book = new Book(bytes, told);
+        mostSearch = new MostSearch(told, now);
+        appealSearch = new AppealSearch(told, now);
+        nets = new Nets(told, now);
+        images = new Image[] {new Image(bytes, told), new Image(bytes, told)};
         firstWay = new int[] {NONE, NONE, NONE};
     }
 
@@ -562,10 +562,12 @@ public final class SoulOffice {
         return word * 32 + (letter - 'a' + 1);
     }
 
-    private static void fillKeys(long[] keys) {
+    /** The KEYS as withLetter makes them, by their numbers. */
+    private static long[] keysByNumber() {
+        long[] keys = new long[KEY_COUNT];
         int found = 0;
         long word = 0;
-        for (int i = 0; i < KEYS.length() && found < keys.length; i++) {
+        for (int i = 0; i < KEYS.length() && found < KEY_COUNT; i++) {
             char c = KEYS.charAt(i);
             if (c == ' ') {
                 keys[found] = word;
@@ -575,13 +577,14 @@ public final class SoulOffice {
                 word = withLetter(word, c);
             }
         }
+        return keys;
     }
 
     /** The bytes fed so far, the TOKENS read from them, and the one at which the reading stands. */
     private static final class Tape {
         final int[] bytes = new int[MAX_TAPE];
         int length;
-        private final long[] keys = new long[KEY_COUNT];
+        private final long[] keys = keysByNumber();
         // The TOKENS of the text that is read, row by row; the last one is its END.
         private final int[] sorts = new int[MAX_TAPE + 1];
         private final int[] places = new int[MAX_TAPE + 1];
@@ -596,10 +599,6 @@ public final class SoulOffice {
         int number;
         long word;
         int faultKind;
-
-        Tape() {
-            fillKeys(keys);
-        }
 
         void addNumber(int n) {
             for (int shift = 24; shift >= 0; shift -= 8) {

@@ -540,6 +540,13 @@ public final class PromiseTest {
         x.give(2, 0);
         D.due("17: nobody waits", x.most(1), 3);
         D.due("18: not", x.gives(2), -1);
+        // each by what it settles with one who lives: a way that begins with less comes to more
+        x = Desk.with("kind k 1 9;kind l 1 9;meets k l 1;meets l l 5;soul a;soul b;soul c;only a l;only b k;only c l;"
+                + "debt a b 90;debt a c 90;");
+        x.give(0, 1);
+        D.due("17: both with a", x.most(1), 6);
+        D.due("18: b", x.gives(1), 0);
+        D.due("18: c", x.gives(2), 1);
         // the PLACES that are left today
         x = Desk.with("kind k 5 1;kind l 5 1;meets k k 9;meets k l 1;soul a;soul b;debt a b 90;");
         x.give(0, 0);
@@ -610,6 +617,12 @@ public final class PromiseTest {
                 + "debt a e 3;debt b e 4;debt c f 5;debt d f 1;debt g h 2;");
         D.due("21: eight", x.fewest(), 5);
         D.due("22: three groups", x.groups(), 3);
+        x = Desk.with("soul a;soul b;soul c;soul d;debt b a 3;debt d a 1;debt c d 2;");
+        D.due("21: nets 4 -3 -2 1", x.fewest(), 3);
+        D.due("22: one group", x.groups(), 1);
+        x = Desk.with("soul a;soul b;soul c;soul d;debt b a 3;debt d a 1;debt c b 2;debt c d 2;");
+        D.due("21: nets 4 -1 -4 1", x.fewest(), 2);
+        D.due("22: two groups", x.groups(), 2);
         // nets 4 4 4 4 -8 -8: two groups, not one by a greedy pairing
         x = Desk.with("soul a;soul b;soul c;soul d;soul e;soul f;"
                 + "debt e a 4;debt e b 4;debt f c 4;debt f d 4;");
@@ -772,7 +785,19 @@ public final class PromiseTest {
         D.due("26: b goes on, c can't: k has no PLACE", x.soul(1, 0), 2);
         D.due("26: c stays", x.soul(2, 0), 1);
         D.due("26: d is l", x.soul(3, 0), 1);
-        // the last SOUL asks: of two chains of three the first, b stays
+        // a changed alone is ahead of b and c changed, though a is the first of all
+        x = Desk.with("kind k 1 1;kind l 1 2;kind m 1 1;kind n 1 2;soul a;soul b;soul c;soul d;"
+                + "only a l m;only b l k;only c k n;");
+        x.give(0, 1);
+        x.give(1, 1);
+        x.give(2, 0);
+        x.give(3, 3);
+        D.due("25: the fewest are two", x.appeal(3, 1), 2);
+        D.due("26: granted", x.grant(3, 1), true);
+        D.due("26: a goes on", x.soul(0, 0), 2);
+        D.due("26: b stays", x.soul(1, 0), 1);
+        D.due("26: c stays", x.soul(2, 0), 0);
+        // a chain is no way here, a swap is
         x = Desk.with("kind k 1 1;kind l 1 1;kind m 1 1;kind n 1 1;soul a;soul b;soul c;soul d;"
                 + "only a k m;only b l k m;only c m l k;");
         x.give(0, 0);

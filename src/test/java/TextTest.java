@@ -226,6 +226,9 @@ public final class TextTest {
         book("s as k;t as k;day 1;clerk 60;", -1, 0);
         book("s", -3, 1);
         book("s as k", -8, 1);
+        book("s;", -3, 1);
+        book("s as;", -6, 1);
+        book("day;", -5, 1);
         book("s k;", -4, 1);
         book("s day k;", -4, 1);
         book("as k;", -2, 1);
