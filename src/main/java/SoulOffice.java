@@ -402,7 +402,7 @@ public final class SoulOffice {
     }
 
     public int gives(int s) {
-        return rules.isSoul(s) ? mostSearch.given[s] : NONE;
+        return mostSearch.toldOf(s);
     }
 
     public int hopeless(int k) {
@@ -1642,7 +1642,7 @@ public final class SoulOffice {
         private final int[] free = new int[MAX_KINDS];
         private final int[] chosen = new int[MAX_CHOOSING];
         private int best;
-        final int[] given = new int[MAX_SOULS];
+        private final int[] given = new int[MAX_SOULS];
 
         MostSearch(Rules rules, Life life) {
             this.rules = rules;
@@ -1654,6 +1654,11 @@ public final class SoulOffice {
             for (int s = 0; s < MAX_SOULS; s++) {
                 given[s] = NONE;
             }
+        }
+
+        /** As what the latest way has this SOUL; the OFFICE may be another one by now. */
+        int toldOf(int s) {
+            return s >= 0 && s < MAX_SOULS ? given[s] : NONE;
         }
 
         int mostSettled(int days) {

@@ -73,7 +73,19 @@ public final class FuzzTest {
     private void newOffice() {
         feedText(texts.office());
         same("office()", x.office(), m.office());
+        whatWasToldLast();
+    }
+
+    /** What another OFFICE, and an image put back, leave as it is. */
+    private void whatWasToldLast() {
         same("fault()", x.fault(), m.fault());
+        for (int s = -1; s <= 8; s++) {
+            same("gives(" + s + ")", x.gives(s), m.gives(s));
+        }
+        for (int what = -1; what <= 4; what++) {
+            same("first(" + what + ")", x.first(what), m.first(what));
+            same("booked(" + what + ")", x.booked(what), m.booked(what));
+        }
     }
 
     private void feedText(String text) {
@@ -215,7 +227,9 @@ public final class FuzzTest {
             }
             case 38: {
                 int i = any(2);
-                return same("restore(" + i + ")", x.restore(i), m.restore(i));
+                Object answer = same("restore(" + i + ")", x.restore(i), m.restore(i));
+                whatWasToldLast();
+                return answer;
             }
             default: {
                 int what = any(4);

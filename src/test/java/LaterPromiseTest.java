@@ -14,6 +14,7 @@ public final class LaterPromiseTest {
         joining();
         images();
         imagesAndOffices();
+        whatWasToldLast();
         D.close("LaterPromiseTest");
     }
 
@@ -268,5 +269,47 @@ public final class LaterPromiseTest {
         D.due("38: DAY 0", x.now(0), 0);
         D.due("38: both are kept", x.restore(1), true);
         D.due("38: with a SENTENCE", x.said(-1), 1);
+    }
+
+    private static void whatWasToldLast() {
+        SoulOffice x = new SoulOffice();
+        x.image(0);
+        Desk.office(x, THREE);
+        x.most(1);
+        Desk.were(x, 0, 1, 10);
+        Desk.book(x, 0, "clerk 2;a as c;b as t;a as w;");
+        int[] ahead = lastAnswers(x);
+        D.due("18: as c", ahead[0], 1);
+        D.due("24: the second KIND", ahead[9], 1);
+        D.due("34: LINES ahead", ahead[12], 1);
+        same("4: behind another OFFICE", ahead, x, Desk.office(x, "kind z 1 1;"));
+        same("4: behind an OFFICE without LINES", ahead, x, Desk.office(x, ""));
+        D.due("38: no SOULS", x.restore(0), true);
+        same("38: behind an image put back", ahead, x, x.count(1));
+        x.days(1);
+        D.due("16: undo()", x.undo(), 0);
+        same("16: behind undo()", ahead, x, 0);
+    }
+
+    private static void same(String what, int[] due, SoulOffice x, int answer) {
+        int[] now = lastAnswers(x);
+        for (int i = 0; i < due.length; i++) {
+            D.due(what + " (" + answer + "), answer " + i, now[i], due[i]);
+        }
+    }
+
+    /** gives() of all, first() and booked(), in their order. */
+    private static int[] lastAnswers(SoulOffice x) {
+        int[] all = new int[15];
+        for (int s = 0; s < 8; s++) {
+            all[s] = x.gives(s);
+        }
+        for (int what = 0; what < 3; what++) {
+            all[8 + what] = x.first(what);
+        }
+        for (int what = 0; what < 4; what++) {
+            all[11 + what] = x.booked(what);
+        }
+        return all;
     }
 }

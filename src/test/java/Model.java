@@ -721,7 +721,7 @@ final class Model {
     }
 
     int gives(int s) {
-        return soulIs(s) ? given.getOrDefault(s, -1) : -1;
+        return given.getOrDefault(s, -1);
     }
 
     int hopeless(int k) {
