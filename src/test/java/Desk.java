@@ -1,16 +1,50 @@
+import java.lang.reflect.InvocationTargetException;
+import java.lang.reflect.Method;
+import java.util.Map;
 import java.util.NoSuchElementException;
+import java.util.TreeMap;
 
 /** What the tests by hand share: texts fed as bytes, and answers held against those due. */
 final class Desk {
     private int wrong = 0;
     private int checks = 0;
+    private String running = "";
 
     void due(String what, long got, long want) {
         checks++;
         if (got != want) {
             wrong++;
-            System.out.println(what + " answered " + got + ", due is " + want);
+            System.out.println(running + what + " answered " + got + ", due is " + want);
         }
+    }
+
+    /**
+     * Runs each test of a class, by itself: its methods without arguments that are named by a promise, as
+     * p07NoSuchOnes(). How many tests each promise has is counted up.
+     */
+    void runAll(Class<?> tests, Map<Integer, Integer> testsOfPromise) throws IllegalAccessException {
+        Map<String, Method> byName = new TreeMap<>();
+        for (Method m : tests.getDeclaredMethods()) {
+            if (m.getName().matches("p\\d\\d\\w+") && m.getParameterCount() == 0) {
+                m.setAccessible(true);
+                byName.put(m.getName(), m);
+            }
+        }
+        for (Method m : byName.values()) {
+            running = m.getName() + ": ";
+            int ahead = checks;
+            try {
+                m.invoke(null);
+            } catch (InvocationTargetException e) {
+                e.getCause().printStackTrace(System.out);
+                due("threw", 1, 0);
+            }
+            if (checks == ahead) {
+                due("answers asked for", 0, 1);
+            }
+            testsOfPromise.merge(Integer.valueOf(m.getName().substring(1, 3)), 1, Integer::sum);
+        }
+        running = "";
     }
 
     void due(String what, boolean got, boolean want) {
