@@ -110,6 +110,22 @@ final class ActEdges {
         D.due("the other way round", x.meets(1, 0), 4);
     }
 
+    private static void p07EachTwoOfSix() {
+        StringBuilder text = new StringBuilder("kind u 1 1;kind v 1 1;kind w 1 1;kind x 1 1;kind y 1 1;kind z 1 1;");
+        for (int a = 0; a < 6; a++) {
+            for (int b = a; b < 6; b++) {
+                text.append("meets ").append((char) ('u' + b)).append(' ').append((char) ('u' + a)).append(' ');
+                text.append(a * 10 + b).append(';');
+            }
+        }
+        SoulOffice x = Desk.with(text.toString());
+        for (int a = 0; a < 6; a++) {
+            for (int b = 0; b < 6; b++) {
+                D.due("meets(" + a + ", " + b + ")", x.meets(a, b), Math.min(a, b) * 10 + Math.max(a, b));
+            }
+        }
+    }
+
     private static void p07Alike() {
         SoulOffice x = Desk.with(FULL);
         D.due("the last KIND with itself", x.meets(5, 5), 7);
@@ -253,6 +269,8 @@ final class ActEdges {
         D.due("a and b both ways, d to a", x.now(6), 3);
         x = Desk.with("soul a;soul b;");
         D.due("none", x.now(6), 0);
+        x = Desk.with("soul a;soul b;debt a b 1;debt b a 1;");
+        D.due("of 1 each", x.now(6), 2);
     }
 
     private static void p10SoFar() {
@@ -643,6 +661,18 @@ final class ActEdges {
         D.due("a DAY of the life is over", x.soul(0, 1), 8);
     }
 
+    private static void p14TheLastOfEightAndOfSix() {
+        SoulOffice x = Desk.with(FULL + "wish h z;wish g z;only f z;");
+        x.clerk(1);
+        D.due("f as z alone", x.soul(5, 0), 5);
+        D.due("g finds no PLACE", x.soul(6, 2), 1);
+        D.due("h finds no PLACE", x.soul(7, 2), 1);
+        x.clerk(1);
+        D.due("g as it wishes", x.soul(6, 0), 5);
+        x.clerk(1);
+        D.due("h as it wishes", x.soul(7, 0), 5);
+    }
+
     private static void p14WithoutKindsOrSouls() {
         SoulOffice x = Desk.with("soul a;");
         D.due("no KINDS", x.clerk(60), 60);
@@ -796,6 +826,24 @@ final class ActEdges {
         D.due("DAYS left", x.soul(0, 1), 9);
         D.due("PLACES left", x.kind(0, 2), 7);
         D.due("today", x.soul(0, 7), 1);
+    }
+
+    private static void p16TheLastOfEightAndOfSix() {
+        SoulOffice x = Desk.with(FULL);
+        x.give(7, 5);
+        x.days(2);
+        D.due("the DAYS", x.undo(), 1);
+        D.due("DAYS left", x.soul(7, 1), 6);
+        D.due("births", x.soul(7, 2), 1);
+        D.due("today", x.soul(7, 7), 1);
+        D.due("PLACES left", x.kind(5, 2), 0);
+        D.due("the giving out", x.undo(), 0);
+        D.due("it waits", x.soul(7, 0), -1);
+        D.due("DAYS left", x.soul(7, 1), 0);
+        D.due("births", x.soul(7, 2), 0);
+        D.due("today", x.soul(7, 7), 0);
+        D.due("PLACES left", x.kind(5, 2), 1);
+        D.due("debts", x.debt(7, 0) * 10 + x.debt(0, 7), 34);
     }
 
     private static void p16Clerk() {

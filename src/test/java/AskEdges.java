@@ -128,6 +128,46 @@ final class AskEdges {
         D.due("settled whole: nothing grows", x.most(30), 13);
     }
 
+    private static void p17ADebtOf1() {
+        SoulOffice x = Desk.with(TWO + "debt b a 1;");
+        D.due("1", x.most(1), 1);
+        x = Desk.with(TWO + "debt a b 6;");
+        D.due("5, then 1", x.most(2), 6);
+    }
+
+    private static void p17FiveBySixKinds() {
+        SoulOffice x = Desk.with("kind u 9 9;kind v 9 9;kind w 9 9;kind x 9 9;kind y 9 9;kind z 9 5;meets z z 7;meets u z 6;"
+                + "soul a;soul b;soul c;soul d;soul e;debt a e 99;debt b d 99;debt c e 99;");
+        D.due("all as z", x.most(1), 21);
+        for (int s = 0; s < 5; s++) {
+            D.due("gives(" + s + ")", x.gives(s), 5);
+        }
+        x = Desk.with("kind u 9 9;kind v 9 9;kind w 9 9;kind x 9 9;kind y 9 9;kind z 9 1;meets z z 7;meets u z 6;"
+                + "soul a;soul b;soul c;soul d;soul e;debt a e 99;debt b d 99;debt c e 99;");
+        D.due("e alone as z", x.most(1), 12);
+        D.due("a as u", x.gives(0), 0);
+        D.due("b is not", x.gives(1), -1);
+        D.due("c as u", x.gives(2), 0);
+        D.due("d is not", x.gives(3), -1);
+        D.due("e as z", x.gives(4), 5);
+    }
+
+    private static void p17AWayThatBeginsWithLess() {
+        // a as l settles with c, who lives; a as k with b alone, by more
+        SoulOffice x = Desk.with("kind k 9 9;kind l 9 9;kind m 9 9;meets l m 3;meets k k 5;soul a;soul b;soul c;only b k;"
+                + "debt a b 99;debt c a 99;");
+        x.give(2, 2);
+        D.due("5, not 3", x.most(1), 5);
+        D.due("a as k", x.gives(0), 0);
+        D.due("b as k", x.gives(1), 0);
+        x = Desk.with("kind k 9 9;kind l 9 9;kind m 9 9;meets l m 3;meets k k 5;soul a;soul b;soul c;only b k;"
+                + "debt a b 2;debt c a 99;");
+        x.give(2, 2);
+        D.due("3, not 2", x.most(1), 3);
+        D.due("a as l", x.gives(0), 1);
+        D.due("b is not", x.gives(1), -1);
+    }
+
     private static void p17AllStays() {
         SoulOffice x = Desk.with(TWO + "debt a b 9;");
         x.most(30);
@@ -145,10 +185,27 @@ final class AskEdges {
     // ---- 18: gives ----
 
     private static void p18AheadOfAny() {
-        SoulOffice x = Desk.with(TWO);
+        SoulOffice x = Desk.with(EIGHT);
+        for (int s = 0; s < 8; s++) {
+            D.due("gives(" + s + ")", x.gives(s), -1);
+        }
+        D.due("eight wait", x.most(1), -1);
         D.due("gives(0)", x.gives(0), -1);
-        x.most(0);
-        D.due("gives(0)", x.gives(0), -1);
+    }
+
+    private static void p18NoSuchOneOfTheLatest() {
+        SoulOffice x = Desk.with(EIGHT + "meets k k 1;debt d h 9;");
+        x.give(0, 0);
+        x.give(1, 0);
+        x.give(2, 0);
+        x.most(1);
+        D.due("h", x.gives(7), 0);
+        Desk.office(x, TWO + "debt a b 9;");
+        x.most(1);
+        D.due("b", x.gives(1), 0);
+        for (int s = 2; s < 8; s++) {
+            D.due("gives(" + s + ")", x.gives(s), -1);
+        }
     }
 
     private static void p18NoSuchOne() {
@@ -296,6 +353,8 @@ final class AskEdges {
     private static void p19TheLastOfEight() {
         SoulOffice x = Desk.with(EIGHT + "debt h g 1;");
         D.due("h to g", x.hopeless(0), 76);
+        D.due("how many", x.hopeless(-1), 1);
+        D.due("the second", x.hopeless(1), -1);
     }
 
     // ---- 20: net ----
@@ -696,15 +755,54 @@ final class AskEdges {
     }
 
     private static void p26OthersOfOtherDaysStay() {
-        SoulOffice x = givenInTurn("kind k 9 1;kind l 9 1;soul a;soul b;soul c;", 1);
-        x.days(1);
+        for (int k = 0; k <= 1; k++) {
+            SoulOffice x = givenInTurn("kind k 9 1;kind l 9 1;soul a;soul b;soul c;", k);
+            x.days(1);
+            x.give(1, k);
+            x.give(2, 1 - k);
+            D.due("granted", x.grant(2, k), true);
+            D.due("a stays", x.soul(0, 0), k);
+            D.due("its DAYS", x.soul(0, 1), 8);
+            D.due("b goes on", x.soul(1, 0), 1 - k);
+            D.due("c", x.soul(2, 0), k);
+        }
+    }
+
+    private static void p26WhoWaitStay() {
+        SoulOffice x = Desk.with("kind k 9 1;kind l 9 1;soul a;soul b;soul c;soul d;");
         x.give(1, 1);
-        x.give(2, 0);
-        D.due("grant(2, 1)", x.grant(2, 1), true);
-        D.due("a stays", x.soul(0, 0), 1);
-        D.due("its DAYS", x.soul(0, 1), 8);
+        x.give(3, 0);
+        D.due("granted", x.grant(3, 1), true);
+        D.due("a waits", x.soul(0, 0), -1);
         D.due("b goes on", x.soul(1, 0), 0);
-        D.due("c", x.soul(2, 0), 1);
+        D.due("c waits", x.soul(2, 0), -1);
+        D.due("d", x.soul(3, 0), 1);
+    }
+
+    private static void p26TheFewestThoughTheFirstIsChanged() {
+        // a alone is changed, though a could stay by b and c changed
+        SoulOffice x = givenInTurn("kind k 9 1;kind l 9 2;kind m 9 1;kind n 9 2;soul a;soul b;soul c;soul d;"
+                + "only a l m;only b l k;only c k n;", 1, 1, 0, 3);
+        D.due("two", x.appeal(3, 1), 2);
+        D.due("granted", x.grant(3, 1), true);
+        D.due("a goes on", x.soul(0, 0), 2);
+        D.due("b stays", x.soul(1, 0), 1);
+        D.due("c stays", x.soul(2, 0), 0);
+    }
+
+    private static void p26AllEight() {
+        SoulOffice x = givenInTurn("kind u 9 1;kind v 9 1;kind w 9 2;kind x 9 1;kind y 9 1;kind z 9 2;"
+                + "soul a;soul b;soul c;soul d;soul e;soul f;soul g;soul h;"
+                + "only b v u;only c w;only d w;only e x;only f y;only g z;only h z v;", 0, 1, 2, 2, 3, 4, 5, 5);
+        D.due("h and b", x.appeal(7, 1), 3);
+        D.due("granted", x.grant(7, 1), true);
+        D.due("a goes on as z, which h leaves", x.soul(0, 0), 5);
+        D.due("b goes on as u", x.soul(1, 0), 0);
+        D.due("h", x.soul(7, 0), 1);
+        x = givenInTurn("kind u 9 9;kind v 9 1;soul a;soul b;soul c;soul d;soul e;soul f;soul g;soul h;", 0, 0, 0, 0, 0, 0, 0, 1);
+        D.due("h leaves it", x.grant(0, 1), true);
+        D.due("a", x.soul(0, 0), 1);
+        D.due("h", x.soul(7, 0), 0);
     }
 
     // ---- 27: ends ----

@@ -104,6 +104,15 @@ final class BookEdges {
         D.due("the DAY", x.now(0), 9999);
     }
 
+    private static void p33DayGivesNobodyOutClerkDoes() {
+        SoulOffice x = Desk.with(THREE);
+        Desk.book(x, 1, "day 2;");
+        D.due("births", x.now(5), 0);
+        Desk.book(x, 1, "clerk 2;");
+        D.due("births", x.now(5), 3);
+        D.due("DAY", x.now(0), 4);
+    }
+
     private static void p33GivenOutTodayByIt() {
         SoulOffice x = Desk.with(THREE);
         Desk.book(x, 1, "day 1;a as c;");
@@ -162,6 +171,17 @@ final class BookEdges {
         D.due("no LINES", x.booked(1), 0);
         D.due("nothing settled in it", x.booked(2), 0);
         D.due("all debts now", x.booked(3), 8);
+    }
+
+    private static void p34NotWrongBehindAWrongOne() {
+        SoulOffice x = Desk.with(THREE);
+        Desk.book(x, 0, "d as w;");
+        D.due("no LINES", Desk.book(x, 0, ""), -1);
+        D.due("why", x.booked(0), 0);
+        Desk.book(x, 0, "d as w;");
+        D.due("a LINE", Desk.book(x, 0, "d as t;"), -1);
+        D.due("why", x.booked(0), 0);
+        D.due("LINES", x.booked(1), 1);
     }
 
     private static void p34TheFirstLineIsWrong() {
@@ -350,6 +370,10 @@ final class BookEdges {
         x.give(1, 1);
         x.days(1);
         D.due("a debt that is settled", bits(x, "owes b"), 0);
+        x = Desk.with(EIGHT + "debt h a 1;debt a h 1;");
+        D.due("1", bits(x, "owes a"), 128);
+        D.due("1", bits(x, "owes h"), 1);
+        D.due("nobody owes itself", bits(x, "owes a and owes h"), 0);
     }
 
     private static void p36AndBindsAheadOfOr() {
@@ -366,6 +390,9 @@ final class BookEdges {
         D.due("or", bits(x, "not place=0 or place=0"), 255);
         D.due("a bracket", bits(x, "not (place=0 or place>1)"), 2);
         D.due("twice", bits(x, "not not place=3"), 8);
+        D.due("all but one", bits(x, "not place=3"), 247);
+        D.due("all", bits(x, "not place>7"), 255);
+        D.due("none", bits(x, "not place<8"), 0);
     }
 
     private static void p36TheLargest() {
@@ -483,6 +510,32 @@ final class BookEdges {
         D.due("not today", x.soul(0, 7), 0);
         D.due("PLACES left", x.kind(2, 2), 0);
         D.due("settled latest", x.settled(0, 1), 10);
+    }
+
+    private static void p38TheLastOfEightAndOfSix() {
+        SoulOffice x = Desk.with("kind u 9 1;kind v 9 1;kind w 9 1;kind x 9 1;kind y 9 1;kind z 9 1;meets z z 7;"
+                + "soul a;soul b;soul c;soul d;soul e;soul f;soul g;soul h;only h z;wish h z;debt h g 9;debt g h 8;");
+        x.give(7, 5);
+        x.days(1);
+        x.give(6, 5);
+        x.days(1);
+        x.give(5, 5);
+        x.image(0);
+        Desk.office(x, "kind k 1 1;");
+        x.restore(0);
+        D.due("DAYS", x.kind(5, 0), 9);
+        D.due("PLACES left", x.kind(5, 2), 0);
+        D.due("meets", x.meets(5, 5), 7);
+        D.due("KINDS", x.soul(7, 3), 32);
+        D.due("wish", x.soul(7, 4), 5);
+        D.due("it lives", x.soul(7, 0), 5);
+        D.due("DAYS left", x.soul(7, 1), 7);
+        D.due("births", x.soul(7, 2), 1);
+        D.due("today", x.soul(5, 7) * 10 + x.soul(7, 7), 10);
+        D.due("debts", x.debt(6, 7) * 10 + x.debt(7, 6), 19);
+        D.due("settled latest", x.settled(6, 7), 7);
+        D.due("NAMES", Desk.book(x, 0, "h as z;"), 0);
+        D.due("it does not wait", x.booked(0), 1);
     }
 
     private static void p38TheOffice() {

@@ -161,6 +161,20 @@ final class TextEdges {
         D.due("grows", x.count(2), 5);
     }
 
+    private static void p03WithinAToken() {
+        SoulOffice x = Desk.with(SMALL);
+        Desk.text(x, "soul abcdefghij;");
+        D.due("a WORD of eight and more is cut", x.end(7), true);
+        D.due("its LINE has no end", x.office(), -8);
+        Desk.text(x, "debts<9999");
+        D.due("a NUMBER of four is cut", x.end(9), true);
+        D.due("sentence()", x.sentence(), 1);
+        Desk.text(x, "clerk 60;day 60;");
+        D.due("a WORD is cut", x.end(4), true);
+        D.due("daybook(0)", x.daybook(0), -2);
+        D.due("a NAME not told", x.fault(), 3);
+    }
+
     private static void p03None() {
         SoulOffice x = new SoulOffice();
         D.due("end(0) of none", x.end(0), true);
@@ -576,8 +590,10 @@ final class TextEdges {
         Desk.sentence(x, "waits");
         x.give(0, 0);
         x.give(1, 0);
-        x.days(1);
+        x.days(2);
         x.give(0, 1);
+        x.give(1, 0);
+        D.due("all live", x.now(4), 0);
         Desk.office(x, SMALL + "debt t s 4;");
         D.due("DAY 0", x.now(0), 0);
         D.due("debts as told", x.now(1), 4);
@@ -590,7 +606,42 @@ final class TextEdges {
         D.due("no DAY went", x.settled(0, 1), -1);
         D.due("no meeting", x.meets(0, 0), 0);
         D.due("PLACES", x.kind(0, 2) + x.kind(1, 2), 3);
-        D.due("today", x.soul(0, 7), 0);
+        for (int t = 0; t < 2; t++) {
+            D.due("it waits", x.soul(t, 0), -1);
+            D.due("no DAYS left", x.soul(t, 1), 0);
+            D.due("no births", x.soul(t, 2), 0);
+            D.due("not today", x.soul(t, 7), 0);
+        }
+    }
+
+    private static void p04AWordWhereANumberIsDue() {
+        for (String word : RESERVED) {
+            bad("kind a " + word + " 1;", 7, 1);
+            bad("kind a 1 " + word + ";", 9, 1);
+            bad("grows " + word + ";", 6, 1);
+            bad(SMALL + "meets k l " + word + ";", 46, 1);
+            bad(SMALL + "debt s t " + word + ";", 45, 1);
+        }
+        bad("grows a;", 6, 1);
+    }
+
+    private static void p04ANumberWhereAWordIsDue() {
+        for (int n = 0; n < 20; n++) {
+            bad(n + " a 1 1;", 0, 1);
+            bad("soul " + n + ";", 5, 1);
+            bad(SMALL + "only s " + n + ";", 43, 1);
+            bad(SMALL + "wish " + n + " k;", 41, 1);
+        }
+    }
+
+    private static void p04NamesOfTheLastOnes() {
+        SoulOffice x = Desk.with(SIX_KINDS + EIGHT_SOULS + "meets f f 8;only z f;wish z f;debt z y 7;debt y z 6;");
+        D.due("meets", x.meets(5, 5), 8);
+        D.due("only", x.soul(7, 3), 32);
+        D.due("wish", x.soul(7, 4), 5);
+        D.due("debt", x.debt(7, 6) * 10 + x.debt(6, 7), 76);
+        D.due("in a DAYBOOK", Desk.book(x, 0, "z as f;"), -1);
+        D.due("in a SENTENCE", Desk.sentence(x, "as f or owes z"), 2);
     }
 
     // ---- 5: fault ----
@@ -744,6 +795,31 @@ final class TextEdges {
         badBook("day 1;;", 6, 1);
     }
 
+    private static void p33WithoutAs() {
+        badBook("s k;", 2, 1);
+        badBook("s k k;", 2, 1);
+        badBook("s;", 1, 1);
+        badBook("s", 1, 1);
+        badBook("s as;", 4, 1);
+    }
+
+    private static void p33ANumberWhereAWordIsDue() {
+        for (int n = 0; n < 20; n++) {
+            badBook(n + " as k;", 0, 1);
+            badBook(n + " 1;", 0, 1);
+            badBook("s " + n + " k;", 2, 1);
+            badBook("s as " + n + ";", 5, 1);
+        }
+    }
+
+    private static void p33AWordWhereANumberIsDue() {
+        for (String word : RESERVED) {
+            badBook("day " + word + ";", 4, 1);
+            badBook("clerk " + word + ";", 6, 1);
+        }
+        badBook("day s;", 4, 1);
+    }
+
     private static void p33TheTapeIsEmptyThen() {
         SoulOffice x = Desk.with(SMALL);
         Desk.book(x, 0, "day 1;");
@@ -869,6 +945,23 @@ final class TextEdges {
         badSentence("waits or", 8, 1);
         badSentence("()", 1, 1);
         badSentence("not", 3, 1);
+    }
+
+    private static void p35ANumberWhereAWordIsDue() {
+        for (int n = 0; n < 20; n++) {
+            badSentence(n + " k", 0, 1);
+            badSentence("not " + n, 4, 1);
+            badSentence("waits " + n + " waits", 6, 1);
+            badSentence("as " + n, 3, 1);
+            badSentence("owes " + n, 5, 1);
+        }
+    }
+
+    private static void p35AWordWhereANumberIsDue() {
+        for (String word : RESERVED) {
+            badSentence("debts<" + word, 6, 1);
+            badSentence("place=" + word, 6, 1);
+        }
     }
 
     private static void p35NamesOfTheOfficeAlone() {
