@@ -152,6 +152,14 @@ final class AskEdges {
         D.due("e as z", x.gives(4), 5);
     }
 
+    private static void p17BothWithOneWhoLives() {
+        SoulOffice x = Desk.with("kind k 9 9;meets k k 3;soul a;soul b;soul c;debt a b 99;debt c a 99;");
+        x.give(0, 0);
+        D.due("3 each", x.most(1), 6);
+        D.due("b", x.gives(1), 0);
+        D.due("c", x.gives(2), 0);
+    }
+
     private static void p17AWayThatBeginsWithLess() {
         // a as l settles with c, who lives; a as k with b alone, by more
         SoulOffice x = Desk.with("kind k 9 9;kind l 9 9;kind m 9 9;meets l m 3;meets k k 5;soul a;soul b;soul c;only b k;"
