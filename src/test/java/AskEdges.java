@@ -376,6 +376,16 @@ final class AskEdges {
         D.throwsNet(new SoulOffice(), 0);
     }
 
+    private static void p20ACallThatThrowsChangesNothing() {
+        SoulOffice x = Desk.with(THREE);
+        x.give(0, 0);
+        D.throwsNet(x, 3);
+        D.throwsNet(x, -1);
+        D.due("all debts", x.now(1), 16);
+        D.due("births", x.now(5), 1);
+        D.due("what can be undone", x.undo(), 0);
+    }
+
     private static void p20OwedLessOwes() {
         SoulOffice x = Desk.with(THREE);
         D.due("7 less 9", x.net(0), -2);
