@@ -1468,12 +1468,16 @@ public final class SoulOffice {
                 return readCond(depth + 1) && tape.takeSign(')');
             }
             switch (key) {
-                case NOT: return readOne(depth + 1) && addStep(NOT, 0, 0);
+                case NOT: return readNot(depth);
                 case WAITS: return addStep(WAITS, 0, 0);
                 case AS: return readNamed(AS, rules.kindNames, rules.kinds);
                 case OWES: return readNamed(OWES, rules.soulNames, rules.souls);
                 default: return readCompared(key);
             }
+        }
+
+        private boolean readNot(int depth) {
+            return readOne(depth + 1) && addStep(NOT, 0, 0);
         }
 
         private boolean readNamed(int key, long[] names, int size) {
@@ -1765,16 +1769,19 @@ public final class SoulOffice {
             if (sum + bound[i] <= best) {
                 return;
             }
-            chosen[i] = NONE;
-            choose(i + 1, sum);
+            chooseAs(i, NONE, sum);
             for (int k = 0; k < rules.kinds; k++) {
                 if (free[k] > 0 && rules.mayBe(who[i], k)) {
-                    chosen[i] = k;
                     free[k]--;
-                    choose(i + 1, sum + addedBy(i, k));
+                    chooseAs(i, k, sum + addedBy(i, k));
                     free[k]++;
                 }
             }
+        }
+
+        private void chooseAs(int i, int k, int sum) {
+            chosen[i] = k;
+            choose(i + 1, sum);
         }
 
         private int addedBy(int i, int k) {
@@ -1865,13 +1872,11 @@ public final class SoulOffice {
             if (s >= rules.souls || s >= MAX_SOULS) {
                 return true;
             }
-            chosen[s] = life.as[s];
             if (s == asker) {
-                chosen[s] = asked;
-                return choose(s + 1, changesLeft);
+                return goOnWith(s, asked, changesLeft);
             }
             if (life.today[s] == 0) {
-                return choose(s + 1, changesLeft);
+                return goOnWith(s, life.as[s], changesLeft);
             }
             if (chooseAs(s, life.as[s], changesLeft)) {
                 return true;
@@ -1888,11 +1893,15 @@ public final class SoulOffice {
             if (k == NONE || room[k] < 1) {
                 return false;
             }
-            chosen[s] = k;
             room[k]--;
-            boolean found = choose(s + 1, changesLeft);
+            boolean found = goOnWith(s, k, changesLeft);
             room[k]++;
             return found;
+        }
+
+        private boolean goOnWith(int s, int k, int changesLeft) {
+            chosen[s] = k;
+            return choose(s + 1, changesLeft);
         }
 
         /** The KINDS found are taken, and what is PLACES left today goes with them. */

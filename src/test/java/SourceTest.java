@@ -57,6 +57,10 @@ public final class SourceTest {
             long lines = code.substring(head.end(), Math.max(head.end(), end)).lines().count();
             check(lines <= 60, head.group(2) + " has " + lines + " lines");
             check(head.group(3).split(",").length <= 7, head.group(2) + " has seven parameters at most");
+            // Rule 8 lets a method call itself only if it is static; others may call one another.
+            String body = code.substring(head.end(), Math.max(head.end(), end));
+            boolean callsItself = Pattern.compile("(?<![.\\w])" + head.group(2) + "\\(").matcher(body).find();
+            check(!callsItself || head.group().contains(" static "), head.group(2) + " calls itself");
             found++;
         }
         check(found > 100, "methods are found: " + found);
