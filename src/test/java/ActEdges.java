@@ -91,6 +91,20 @@ final class ActEdges {
         D.due("behind the last DAY", x.kind(1, 3), 0);
     }
 
+    private static void p06WhicheverSoulsLiveSo() {
+        for (int bits = 0; bits < 256; bits++) {
+            SoulOffice x = Desk.with(FULL);
+            for (int s = 0; s < 8; s++) {
+                if ((bits >> s & 1) == 1) {
+                    x.give(s, 2);
+                } else if (s % 3 == 0) {
+                    x.give(s, 1);
+                }
+            }
+            D.due("who live so, of SOULS " + bits, x.kind(2, 3), Integer.bitCount(bits));
+        }
+    }
+
     // ---- 7: meets ----
 
     private static void p07NoSuchOnes() {

@@ -176,6 +176,31 @@ final class AskEdges {
         D.due("b is not", x.gives(1), -1);
     }
 
+    private static final String MET = "kind w 3 9;kind c 5 9;kind t 2 9;meets w c 2;meets c t 3;meets w t 4;"
+            + "soul a;soul b;soul d;";
+
+    private static void p17ThreeWhoLive() {
+        SoulOffice x = givenInTurn(MET + "debt a b 30;debt d b 30;debt d a 30;debt b a 1;", 0, 1, 2);
+        D.due("3 DAYS, 2 and 2", x.most(10), 6 + 8 + 6);
+        D.due("a DAY", x.most(1), 2 + 4 + 3);
+        x.days(1);
+        D.due("2 DAYS left, 1 and 1", x.most(10), 4 + 4 + 3);
+        x.days(1);
+        D.due("d waits; as t it settles 4 with a, 6 with b", x.most(10), 2 + 4 + 6);
+        D.due("d as t", x.gives(2), 2);
+    }
+
+    private static void p17EachWhoWaitsWithEachWhoLives() {
+        SoulOffice x = Desk.with(MET + "soul e;debt b d 5;debt d b 4;debt e d 7;debt a e 2;debt a b 9;");
+        x.give(1, 0);
+        x.give(3, 2);
+        D.due("d by 6 and 6, a by 6 and 2", x.most(10), 20);
+        D.due("a", x.gives(0), 1);
+        D.due("b lives", x.gives(1), -1);
+        D.due("d", x.gives(2), 1);
+        D.due("e lives", x.gives(3), -1);
+    }
+
     private static void p17AllStays() {
         SoulOffice x = Desk.with(TWO + "debt a b 9;");
         x.most(30);
@@ -438,6 +463,15 @@ final class AskEdges {
         D.due("four debts", x.fewest(), 4);
     }
 
+    private static void p22AskedAnew() {
+        SoulOffice x = Desk.with("soul a;soul b;soul d;debt a b 2;debt a d 3;");
+        D.due("5 less, 2 and 3", x.groups(), 1);
+        D.due("once more", x.groups(), 1);
+        Desk.office(x, "soul a;soul b;soul d;debt a b 2;");
+        D.due("2 less and 2", x.groups(), 1);
+        D.due("a debt", x.fewest(), 1);
+    }
+
     // ---- 23: were ----
 
     private static void p23NoBytes() {
@@ -596,6 +630,10 @@ final class AskEdges {
     private static final String ROUND = "kind u 9 1;kind v 9 1;kind w 9 1;kind x 9 1;kind y 9 1;kind z 9 1;"
             + "soul a;soul b;soul c;soul d;soul e;soul f;only b v w;only c w x;only d x y;only e y z;";
 
+    // the same the other way round
+    private static final String BACK = "kind u 9 1;kind v 9 1;kind w 9 1;kind x 9 1;kind y 9 1;kind z 9 1;"
+            + "soul a;soul b;soul c;soul d;soul e;soul f;only a u z;only b v u;only c w v;only d x w;only e y x;only f z y;";
+
     private static SoulOffice givenInTurn(String office, int... kinds) {
         SoulOffice x = Desk.with(office);
         for (int s = 0; s < kinds.length; s++) {
@@ -672,6 +710,33 @@ final class AskEdges {
         D.due("two", x.appeal(0, 5), 2);
     }
 
+    private static void p25EachOfAllSixInTurn() {
+        for (int s = 0; s < 6; s++) {
+            SoulOffice x = givenInTurn(ROUND + "only a u v;only f z u;", 0, 1, 2, 3, 4, 5);
+            D.due("all six for " + s, x.appeal(s, (s + 1) % 6), 6);
+            x = givenInTurn(BACK, 0, 1, 2, 3, 4, 5);
+            D.due("all six back for " + s, x.appeal(s, (s + 5) % 6), 6);
+        }
+    }
+
+    private static void p25KindsOfOtherNumbersThanTheirSouls() {
+        SoulOffice x = givenInTurn("kind k 9 1;kind l 9 1;soul a;soul b;", 1, 0);
+        D.due("b as l, a as k", x.appeal(1, 1), 2);
+        D.due("a as k, b as l", x.appeal(0, 0), 2);
+        x = givenInTurn("kind k 9 1;kind l 9 1;kind m 9 2;soul a;soul b;soul c;only b l m;", 2, 1, 0);
+        D.due("a as l, b as m", x.appeal(0, 1), 2);
+        D.due("c as l, b as m", x.appeal(2, 1), 2);
+    }
+
+    private static void p25WhoOfAnotherDayHasTheKindCannotGo() {
+        SoulOffice x = givenInTurn("kind k 9 1;kind l 9 1;kind m 9 1;soul a;soul b;soul c;only c k;only b l k;", 0);
+        x.days(1);
+        x.give(2, 0);
+        x.give(1, 1);
+        D.due("a could be m, but c has the PLACE", x.appeal(1, 0), -1);
+        D.due("nor is it granted", x.grant(1, 0), false);
+    }
+
     private static void p25AllSixInTurnButTheLast() {
         SoulOffice x = givenInTurn(ROUND + "only f z;", 0, 1, 2, 3, 4, 5);
         D.due("f has to stay", x.appeal(0, 1), -1);
@@ -742,6 +807,19 @@ final class AskEdges {
         }
     }
 
+    private static void p26EachOfAllSixInTurn() {
+        for (int asker = 0; asker < 6; asker++) {
+            SoulOffice x = givenInTurn(ROUND + "only a u v;only f z u;", 0, 1, 2, 3, 4, 5);
+            D.due("granted", x.grant(asker, (asker + 1) % 6), true);
+            SoulOffice y = givenInTurn(BACK, 0, 1, 2, 3, 4, 5);
+            D.due("granted", y.grant(asker, (asker + 5) % 6), true);
+            for (int s = 0; s < 6; s++) {
+                D.due("SOUL " + s + " for " + asker, x.soul(s, 0), (s + 1) % 6);
+                D.due("SOUL " + s + " back for " + asker, y.soul(s, 0), (s + 5) % 6);
+            }
+        }
+    }
+
     private static void p26OfLikeWaysWhoStaysAsItIs() {
         // b or c goes on as k; b stays
         SoulOffice x = givenInTurn("kind k 9 1;kind l 9 2;soul a;soul b;soul c;", 0, 1, 1);
@@ -773,13 +851,15 @@ final class AskEdges {
     }
 
     private static void p26OthersOfOtherDaysStay() {
-        for (int k = 0; k <= 1; k++) {
-            SoulOffice x = givenInTurn("kind k 9 1;kind l 9 1;soul a;soul b;soul c;", k);
+        for (int i = 0; i < 4; i++) {
+            int k = i % 2;
+            int had = i / 2;
+            SoulOffice x = givenInTurn("kind k 9 1;kind l 9 1;soul a;soul b;soul c;", had);
             x.days(1);
             x.give(1, k);
             x.give(2, 1 - k);
             D.due("granted", x.grant(2, k), true);
-            D.due("a stays", x.soul(0, 0), k);
+            D.due("a stays", x.soul(0, 0), had);
             D.due("its DAYS", x.soul(0, 1), 8);
             D.due("b goes on", x.soul(1, 0), 1 - k);
             D.due("c", x.soul(2, 0), k);

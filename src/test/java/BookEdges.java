@@ -122,6 +122,14 @@ final class BookEdges {
         D.due("not today", x.soul(0, 7), 0);
     }
 
+    private static void p33EachLineItsOwnSoulAndKind() {
+        SoulOffice x = Desk.with(THREE);
+        D.due("lived", Desk.book(x, 1, "d as t;b as w;a as c;"), -1);
+        D.due("a", x.soul(0, 0), 1);
+        D.due("b", x.soul(1, 0), 0);
+        D.due("d", x.soul(2, 0), 2);
+    }
+
     private static void p33WhatIsSoAheadOfIt() {
         SoulOffice x = Desk.with(THREE);
         x.give(0, 0);
@@ -201,6 +209,17 @@ final class BookEdges {
         Desk.book(x, 1, "day 1;");
         D.due("the second DAY", x.booked(2), 2);
         D.due("both", x.now(2), 12);
+    }
+
+    private static void p34SettledInItBehindMuchThatWas() {
+        SoulOffice x = Desk.with("kind k 60 9;meets k k 60;soul a;soul b;debt a b 999;");
+        x.give(0, 0);
+        x.give(1, 0);
+        x.days(2);
+        D.due("none WRONG", Desk.book(x, 0, "day 1;day 2;"), -1);
+        D.due("three DAYS", x.booked(2), 180);
+        D.due("debts then", x.booked(3), 999 - 5 * 60);
+        D.due("two LINES", x.booked(1), 2);
     }
 
     private static void p34AFaultLeavesIt() {
@@ -359,6 +378,26 @@ final class BookEdges {
         D.due("who wait", bits(x, "waits"), 6);
         x.days(3);
         D.due("not any more", bits(x, "as w"), 0);
+    }
+
+    private static void p36EachLivesAsItDoes() {
+        SoulOffice x = Desk.with("kind k 9 9;kind l 9 9;kind m 9 9;soul a;soul b;soul c;soul d;soul e;");
+        int[] kinds = {1, 2, 0, 1, 0};
+        for (int s = 0; s < 5; s++) {
+            x.give(s, kinds[s]);
+        }
+        D.due("as k", bits(x, "as k"), 20);
+        D.due("as l", bits(x, "as l"), 9);
+        D.due("as m", bits(x, "as m"), 2);
+        D.due("as m or k", bits(x, "as m or as k"), 22);
+        D.due("not as l", bits(x, "not as l"), 22);
+    }
+
+    private static void p36OfOneSoulAlone() {
+        SoulOffice x = Desk.with("soul a;");
+        D.due("and", bits(x, "waits and not waits"), 0);
+        D.due("or", bits(x, "not waits or waits"), 1);
+        D.due("not", bits(x, "not waits"), 0);
     }
 
     private static void p36ItOwes() {

@@ -585,6 +585,18 @@ final class TextEdges {
         bad(SMALL + "debt s 1 1;", 43, 1);
     }
 
+    private static void p04NamesOfAFormerOffice() {
+        for (String line : new String[] {"only t k;", "only s l;", "wish t k;", "wish s l;", "debt s t 1;", "meets k l 1;"}) {
+            SoulOffice x = Desk.with("kind k 1 1;kind l 1 1;soul s;soul t;");
+            int answer = Desk.office(x, "kind k 1 1;soul s;" + line);
+            D.due(line, answer < 0 ? 1 : 0, 1);
+            D.due(line + " not told now", x.fault(), 3);
+        }
+        SoulOffice x = Desk.with("kind k 1 1;kind l 1 1;soul s;soul t;");
+        D.due("told anew, the other way", Desk.office(x, "kind t 1 1;kind s 1 1;soul l;soul k;wish k s;"), 5);
+        D.due("its wish", x.soul(1, 4), 1);
+    }
+
     private static void p04ANewOfficeBeginsAnew() {
         SoulOffice x = Desk.with(SMALL + "debt s t 9;meets k k 2;grows 1;");
         Desk.sentence(x, "waits");
@@ -775,6 +787,15 @@ final class TextEdges {
         Desk.office(x, "soul q;");
         D.due("an OFFICE of another", Desk.book(x, 0, "s as k;"), -2);
         D.due("its fault", x.fault(), 3);
+    }
+
+    private static void p33NamesOfAFormerOffice() {
+        SoulOffice x = Desk.with("kind k 1 1;kind l 1 1;soul s;soul t;");
+        Desk.office(x, "kind k 1 1;soul s;");
+        D.due("a SOUL", Desk.book(x, 0, "t as k;"), -2);
+        D.due("not told now", x.fault(), 3);
+        D.due("a KIND", Desk.book(x, 0, "s as l;"), -2 - 5);
+        D.due("not told now", x.fault(), 3);
     }
 
     private static void p33WordsThatCannotCome() {
@@ -976,6 +997,15 @@ final class TextEdges {
         SoulOffice x = new SoulOffice();
         D.due("without an OFFICE", Desk.sentence(x, "owes s"), -6);
         D.due("its fault", x.fault(), 3);
+    }
+
+    private static void p35NamesOfAFormerOffice() {
+        SoulOffice x = Desk.with("kind k 1 1;kind l 1 1;soul s;soul t;");
+        Desk.office(x, "kind k 1 1;soul s;");
+        D.due("a KIND", Desk.sentence(x, "as l"), -1 - 3);
+        D.due("not told now", x.fault(), 3);
+        D.due("a SOUL", Desk.sentence(x, "owes t"), -1 - 5);
+        D.due("not told now", x.fault(), 3);
     }
 
     private static void p35TwoHundredBytes() {
